@@ -109,6 +109,9 @@ final class TermTest {
 
     private static void promise21FromTerms() {
         SternBrocotExplorer x = new SternBrocotExplorer();
+        x.set(0, 9, 8);
+        Due.is("[1] on a new object", fromTerms(x, 0, 1), 1);
+        Due.fraction(x, 0, 1, 1);
         Due.is("[1; 2, 3, 4]", fromTerms(x, 0, 1, 2, 3, 4), 1);
         Due.fraction(x, 0, 43, 30);
         Due.is("the list stays", x.count(0), 4);
