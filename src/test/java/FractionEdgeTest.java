@@ -89,9 +89,15 @@ final class FractionEdgeTest {
         SternBrocotExplorer x = new SternBrocotExplorer();
         x.set(0, 1, 1000000);
         x.set(1, 1000000, 1);
-        for (int call = 3; call <= 510; call++) {
-            Due.is("rankedBetween as call " + call, x.rankedBetween(2, 0, 1, call % 5, 718), 719);
+        int[] lastTops = {95, 95, 95, 73, 3};
+        int[] lastBottoms = {24, 24, 24, 24, 1};
+        // Each round makes three calls, the last of them call 509.
+        for (int call = 3; call <= 507; call += 3) {
+            int measure = call % 5;
+            Due.is("rankedBetween as call " + call, x.rankedBetween(2, 0, 1, measure, 718), 719);
+            Due.fraction(x, 2, lastTops[measure], lastBottoms[measure]);
         }
+        Due.is("call 510", x.count(2), 0);
         Due.is("call 511", x.plant(4, 3, 1), 0);
         Due.is("call 512", x.operate(4, 0, 1), 1000002 ^ 5);
         SternBrocotExplorer planted = new SternBrocotExplorer();
